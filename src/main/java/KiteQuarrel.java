@@ -1373,11 +1373,11 @@ public final class KiteQuarrel {
     // ---- the tokens of a setup text
 
     private static final class Tokens {
-        static final int END = 0, WORD = 1, NUMBER = 2, MINUS = 3, SEMICOLON = 4, OTHER = 5;
+        static final int END = 0, WORD = 1, NUMBER = 2, MINUS = 3, SEMICOLON = 4, BLANK = 5, OTHER = 6;
         private static final int MOST_DIGITS = 4;
 
         final Input text;
-        int kind, start, length, value;
+        int kind, start, length;
 
         Tokens(Input text) {
             this.text = text;
@@ -1391,43 +1391,48 @@ public final class KiteQuarrel {
 
         void readNext() {
             start += length;
-            while (start < text.length && isBlank(text.bytes[start])) {
+            while (start < text.length && kindOf(text.bytes[start]) == BLANK) {
                 start++;
             }
-            length = 1;
             if (start >= text.length) {
                 kind = END;
                 length = 0;
-            } else if (isLetter(text.bytes[start])) {
-                kind = WORD;
-                readLetters();
-            } else if (isDigit(text.bytes[start])) {
-                kind = NUMBER;
-                readDigits();
-            } else {
-                kind = text.bytes[start] == '-' ? MINUS : text.bytes[start] == ';' ? SEMICOLON : OTHER;
-            }
-        }
-
-        private void readLetters() {
-            while (start + length < text.length && isLetter(text.bytes[start + length])) {
-                length++;
-            }
-        }
-
-        /** A run of more digits than a number has is told as no token. */
-        private void readDigits() {
-            while (start + length < text.length && isDigit(text.bytes[start + length])) {
-                length++;
-            }
-            if (length > MOST_DIGITS) {
-                kind = OTHER;
                 return;
             }
-            value = 0;
+            kind = kindOf(text.bytes[start]);
+            length = 1;
+            boolean isRun = kind == WORD || kind == NUMBER;
+            while (isRun && start + length < text.length && kindOf(text.bytes[start + length]) == kind) {
+                length++;
+            }
+        }
+
+        private static int kindOf(byte b) {
+            if (b >= 'a' && b <= 'z') {
+                return WORD;
+            }
+            if (b >= '0' && b <= '9') {
+                return NUMBER;
+            }
+            switch (b) {
+                case '-': return MINUS;
+                case ';': return SEMICOLON;
+                case ' ': return BLANK;
+                case '\n': return BLANK;
+                default: return OTHER;
+            }
+        }
+
+        boolean isNumber() {
+            return kind == NUMBER && length <= MOST_DIGITS;
+        }
+
+        int value() {
+            int value = 0;
             for (int at = start; at < start + length; at++) {
                 value = value * 10 + (text.bytes[at] - '0');
             }
+            return value;
         }
 
         boolean isWord(String word) {
@@ -1441,24 +1446,12 @@ public final class KiteQuarrel {
             }
             return true;
         }
-
-        private static boolean isBlank(byte b) {
-            return b == ' ' || b == 10;
-        }
-
-        private static boolean isLetter(byte b) {
-            return b >= 'a' && b <= 'z';
-        }
-
-        private static boolean isDigit(byte b) {
-            return b >= '0' && b <= '9';
-        }
     }
 
     // ---- the reader of a setup text
 
     private static final class Setup {
-        private static final int KITE = 0, WIND = 1, FIRST_SETTING = 2, SHARP = 8, TOUGH = 9, OUT = 10, WORDS = 11;
+        private static final int KITE = 0, WIND = 1, FIRST_SETTING = 2, LAST_SETTING = 7, SHARP = 8, TOUGH = 9, OUT = 10, WORDS = 11;
         private static final int MISPLACED = 1, OUT_OF_RANGE = 2, TOLD_AGAIN = 3, TOO_MANY = 4;
 
         final Field field = new Field();
@@ -1483,7 +1476,8 @@ public final class KiteQuarrel {
             tokens.readFirst();
             // each statement takes at least one byte
             for (int n = 0; n <= MOST_BYTES && tokens.kind != Tokens.END; n++) {
-                if (!readStatement()) {
+                int word = quotedWord();
+                if (!readStatement(word) || !readSemicolon()) {
                     return false;
                 }
             }
@@ -1493,19 +1487,12 @@ public final class KiteQuarrel {
             return true;
         }
 
-        private boolean readStatement() {
-            int word = quotedWord();
-            boolean good;
-            if (word == KITE) {
-                good = readKite();
-            } else if (word == WIND) {
-                good = readWind();
-            } else if (isIn(word, FIRST_SETTING, FIRST_SETTING + SETTINGS - 1)) {
-                good = readSetting(word - FIRST_SETTING);
-            } else {
-                good = fail(MISPLACED);
+        private boolean readStatement(int word) {
+            switch (word) {
+                case KITE: return readKite();
+                case WIND: return readWind();
+                default: return isIn(word, FIRST_SETTING, LAST_SETTING) ? readSetting(word - FIRST_SETTING) : fail(MISPLACED);
             }
-            return good && readSemicolon();
         }
 
         private boolean readKite() {
@@ -1523,7 +1510,19 @@ public final class KiteQuarrel {
             Kite k = field.kites[field.kiteCount];
             k.startAt(x, number);
             field.kiteCount++;
-            return readLine(k);
+            if (!readOption(SHARP, 0, MOST_SHARP, k.sharp)) {
+                return false;
+            }
+            k.sharp = number;
+            if (!readOption(TOUGH, 1, MOST_TOUGH, k.tough)) {
+                return false;
+            }
+            k.tough = number;
+            if (!readOption(OUT, 1, MOST_OUT, k.out)) {
+                return false;
+            }
+            k.out = number;
+            return true;
         }
 
         private boolean readName() {
@@ -1538,29 +1537,13 @@ public final class KiteQuarrel {
             return true;
         }
 
-        private boolean readLine(Kite k) {
-            if (tokens.isWord(quoted(SHARP))) {
-                tokens.readNext();
-                if (!readNumber(0, MOST_SHARP)) {
-                    return false;
-                }
-                k.sharp = number;
+        private boolean readOption(int word, int least, int most, int otherwise) {
+            if (!tokens.isWord(quoted(word))) {
+                number = otherwise;
+                return true;
             }
-            if (tokens.isWord(quoted(TOUGH))) {
-                tokens.readNext();
-                if (!readNumber(1, MOST_TOUGH)) {
-                    return false;
-                }
-                k.tough = number;
-            }
-            if (tokens.isWord(quoted(OUT))) {
-                tokens.readNext();
-                if (!readNumber(1, MOST_OUT)) {
-                    return false;
-                }
-                k.out = number;
-            }
-            return true;
+            tokens.readNext();
+            return readNumber(least, most);
         }
 
         private boolean readWind() {
@@ -1612,13 +1595,13 @@ public final class KiteQuarrel {
         }
 
         private boolean readNumber(int least, int most) {
-            if (tokens.kind != Tokens.NUMBER) {
+            if (!tokens.isNumber()) {
                 return fail(MISPLACED);
             }
-            if (!isIn(tokens.value, least, most)) {
+            number = tokens.value();
+            if (!isIn(number, least, most)) {
                 return fail(OUT_OF_RANGE);
             }
-            number = tokens.value;
             tokens.readNext();
             return true;
         }
