@@ -57,6 +57,13 @@ public final class ChangesTest {
             KiteQuarrel one = Checks.field("kite a 0 199 out " + row[0] + ";");
             due("launch with " + row[0], row[1], () -> one.launch(0));
         }
+        KiteQuarrel aside = Checks.field("kite a 50 50 out 20;wind 0 5 -4;slack 0;rise 0;sink 20;");
+        aside.launch(0);
+        aside.pull(0, 99);
+        aside.run(1);
+        due("down aside", "1 55 46", () -> aside.kite(0, 0) + " " + aside.kite(0, 1) + " " + aside.kite(0, 2));
+        aside.launch(0);
+        due("launched at its flyer", "0 50 50", () -> aside.kite(0, 0) + " " + aside.kite(0, 1) + " " + aside.kite(0, 2));
         // down away from its flyer: launched at the flyer's place, with its reel, wear and length out as they are
         KiteQuarrel away = Checks.field("kite a 50 50 out 20;wind 0 5 0;slack 0;rise 0;sink 20;");
         away.launch(0);
@@ -276,6 +283,38 @@ public final class ChangesTest {
         due("none", "0 0 2", () -> q.count(9) + " " + q.sum(11) + " " + q.count(8));
     }
 
+    /** Twelve events are kept; undo brings back those that later ones have put out. */
+    private static void eventsUndone() {
+        KiteQuarrel q = Checks.field("kite a 50 50 out 10;wind 0 0 0;sink 20;slack 0;");
+        for (int n = 0; n < 5; n++) {
+            q.launch(0);
+            q.pull(0, 50);
+            q.run(1);
+        }
+        q.set(0, 0);
+        String before = seenBut(q);
+        change("a launch with ten events", q, 20, () -> q.launch(0));
+        due("eleven events", 11, () -> q.count(8));
+        q.run(1);
+        String twelve = seenBut(q);
+        change("a launch with twelve events", q, 20, () -> q.launch(0));
+        change("a run with twelve events", q, 0, () -> q.run(1));
+        q.undo();
+        q.undo();
+        due("the twelve are there again", twelve, () -> seenBut(q));
+        q.saveState();
+        q.launch(0);
+        q.run(1);
+        q.launch(0);
+        q.restoreState();
+        due("the twelve are restored", twelve, () -> seenBut(q));
+        due("others than before", false, () -> before.equals(twelve));
+        due("forecasts leave them", twelve, () -> {
+            q.kiteIn(0, 0, 9);
+            return seenBut(q);
+        });
+    }
+
     public static void main(String[] args) {
         launch();
         reel();
@@ -286,6 +325,7 @@ public final class ChangesTest {
         setWind();
         set();
         undo();
+        eventsUndone();
         cutsAndPointsUndone();
         Checks.end("ChangesTest");
     }

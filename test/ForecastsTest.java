@@ -117,6 +117,14 @@ public final class ForecastsTest {
         due("lost now", "1 1", () -> q.duel(0, 1, 1) + " " + q.duel(1, 0, 1));
         q.letGo(0);
         due("both are lost now", -1, () -> q.duel(0, 1, 100));
+        KiteQuarrel lost = Checks.field("kite a 50 50 out 4;kite b 50 99;kite c 99 50 out 4;kite d 99 51;wind 0 0 0;");
+        lost.launch(0);
+        lost.launch(2);
+        lost.letGo(0);
+        lost.letGo(2);
+        lost.run(1);
+        due("one fell, one was picked up", "3 4", () -> lost.kite(0, 0) + " " + lost.kite(2, 0));
+        due("they are lost now", "0 0 2 2 -1", () -> lost.duel(0, 1, 9) + " " + lost.duel(3, 0, 9) + " " + lost.duel(2, 1, 9) + " " + lost.duel(3, 2, 9) + " " + lost.duel(0, 2, 9));
         KiteQuarrel both = bothCut();
         due("both at once", "-1 -1", () -> both.duel(0, 1, 100) + " " + both.duel(1, 0, 1));
         for (int kite : new int[] {-1, 3, LEAST, MOST}) {
@@ -206,9 +214,31 @@ public final class ForecastsTest {
             int none = q.kiteIn(0, 3, 1);
             return three + " " + five + " " + none;
         });
+        // the force 9 by RISE 9 lifts it by 81 a tick, and the line pulls it in: to 9 aside and 28 high with 29 out, then to 18 and 34 with 38
+        q.setWind(0, 0, 9);
+        q.set(0, 99);
+        q.set(1, 9);
+        due("the greatest reel", "9 28 34", () -> q.bestReel(0, 1) + " " + heightWith(q, 9, 1) + " " + heightWith(q, 9, 2));
+        due("behind just so many ticks", "9", () -> q.bestReel(0, 2));
         q.set(2, 0);
         q.letGo(0);
         due("one that drifts", -9, () -> q.bestReel(0, 9));
+    }
+
+    private static int heightWith(KiteQuarrel q, int reel, int ticks) {
+        q.reel(0, reel);
+        int height = q.kiteIn(0, 3, ticks);
+        q.undo();
+        return height;
+    }
+
+    /** The trials go on for just the ticks asked: with one more the best reel would be another one. */
+    private static void justTheTicks() {
+        KiteQuarrel q = Checks.field("kite a 50 50 out 28;wind 0 0 0;slack 5;sink 8;climb 0;");
+        q.launch(0);
+        // the slack is 8 + r behind the first tick: at most 5 up to r -3, and 20 + 8 + r is long enough from r -8 on
+        due("one tick", "-8 20 20 20 12", () -> q.bestReel(0, 1) + " " + heightWith(q, -8, 1) + " " + heightWith(q, -4, 1) + " " + heightWith(q, -3, 1) + " " + heightWith(q, -2, 1));
+        due("two ticks", "-4 18 20 20 4", () -> q.bestReel(0, 2) + " " + heightWith(q, -5, 2) + " " + heightWith(q, -4, 2) + " " + heightWith(q, -3, 2) + " " + heightWith(q, -2, 2));
     }
 
     private static void atTheEnd() {
@@ -244,6 +274,7 @@ public final class ForecastsTest {
         duel();
         reels();
         bestReel();
+        justTheTicks();
         atTheEnd();
         Checks.end("ForecastsTest");
     }

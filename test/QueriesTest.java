@@ -292,6 +292,10 @@ public final class QueriesTest {
         due("the smallest number on a tie", "1 0 15 16.25", () -> q.highest() + " " + q.tautest() + " " + q.spread() + " " + q.meanHeight());
         q.walk(2, 9, 29);
         due("a slack below 0 is less", 2, q::tautest);
+        KiteQuarrel slacks = Checks.field("kite a 9 9 out 50;kite b 9 9 out 30;kite c 9 9 out 40;kite d 9 9 out 29;kite e 9 9 out 35;");
+        for (int i = 0; i < 5; i++) slacks.launch(i);
+        due("the least of five", 3, slacks::tautest);
+        due("as high as each other", 0, slacks::highest);
         q.launch(4);
         due("the mean is a double", (double) 71 / 5.0, q::meanHeight);
         q.letGo(1);
@@ -357,12 +361,19 @@ public final class QueriesTest {
         due("nearest of none", "-1 -1", () -> q.nearest(0) + " " + q.nearest(2));
         q.launch(2);
         due("with a height", "13 12", () -> q.gap(0, 2) + " " + q.gap(2, 3));
+        q.launch(0);
+        due("with two heights", "9 9", () -> q.gap(0, 2) + " " + q.gap(2, 0));
+        q.undo();
         due("nearest", "2 2 -1", () -> q.nearest(0) + " " + q.nearest(1) + " " + q.nearest(2));
         q.launch(3);
         q.launch(4);
         due("the smallest on a tie, seen from above", "2 2 3 2 2", () -> q.nearest(0) + " " + q.nearest(1) + " " + q.nearest(2) + " " + q.nearest(3) + " " + q.nearest(4));
         q.letGo(2);
         due("one that drifts does not count", "3 3", () -> q.nearest(0) + " " + q.nearest(2));
+        KiteQuarrel row = Checks.field("kite a 50 50;kite b 90 50;kite c 51 50;kite d 70 50;kite e 50 49;kite f 50 52;");
+        for (int i = 0; i < 6; i++) row.launch(i);
+        due("nearest of a row", "2 3 0 2 0 0", () -> row.nearest(0) + " " + row.nearest(1) + " " + row.nearest(2) + " " + row.nearest(3) + " " + row.nearest(4)
+            + " " + row.nearest(5));
         for (int kite : new int[] {-1, 5, LEAST, MOST}) {
             Checks.refused("gap " + kite, q, Checks.INDEX, () -> q.gap(kite, 0));
             Checks.refused("gap to " + kite, q, Checks.INDEX, () -> q.gap(0, kite));

@@ -132,6 +132,8 @@ public final class SetupTest {
             return left + " " + (q.count(12) + 1);
         });
         due("keeps the saved state", 3, q::restoreState);
+        q.reel(0, 5);
+        q.reel(1, 5);
         due("a good text", 1, () -> Checks.parse(q, "kite z 5 6;"));
         due("error is gone", "0 -1", () -> q.errorCode() + " " + q.errorOffset());
         int[] counts = {1, 1, 0, 0, 1, 0, 0, 0, 0, 0, 0, 0, 0};
@@ -147,6 +149,27 @@ public final class SetupTest {
             Checks.feed(q, "a");
             return q.find();
         });
+    }
+
+    /** Behind a field of ten that fly and cross, one of two: nothing is left of the others. */
+    private static void fewerThanBefore() {
+        StringBuilder text = new StringBuilder("reach 50;");
+        for (int i = 0; i < 10; i++) text.append("kite ").append((char) ('a' + i)).append(' ').append(10 + 18 * i).append(" 190 out 300;");
+        KiteQuarrel q = Checks.field(text.toString());
+        for (int i = 0; i < 10; i++) q.launch(i);
+        for (int i = 0; i < 10; i++) q.walk(i, 190 - 18 * i, 10 + i);
+        due("each crosses each", "45 45 1022 9", () -> q.count(10) + " " + q.count(11) + " " + q.rubs(0) + " " + q.wearNow(0));
+        q.saveState();
+        due("two kites", 2, () -> Checks.parse(q, "kite y 100 100 out 300;kite z 82 190 out 300;"));
+        q.launch(0);
+        q.walk(0, 106, 14);
+        due("they alone", "0 0 0 0 0 0", () -> q.count(10) + " " + q.count(11) + " " + q.rubs(0) + " " + q.wearNow(0) + " " + q.highest() + " " + q.tautest());
+        due("they alone", "-1 0 20.0 -1 1 3", () -> q.threat(0) + " " + q.spread() + " " + q.meanHeight() + " " + q.nearest(0) + " " + q.rank(1) + " " + q.inBox(0, 0, 199, 199));
+        due("they alone", "1 -1 0", () -> q.sum(0) + " " + q.leader() + " " + q.cutsIn(50));
+        q.printPairs();
+        due("they alone", "-", () -> Checks.output(q));
+        Checks.feed(q, "c");
+        due("no name of before", -1, q::find);
     }
 
     /** Each row: the text, the code, the offset. */
@@ -271,6 +294,7 @@ public final class SetupTest {
         feedAndTruncate();
         parsed();
         parseStartsAnew();
+        fewerThanBefore();
         errors();
         fullBuffer();
         errorOfLatestParse();
