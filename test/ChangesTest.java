@@ -285,7 +285,7 @@ public final class ChangesTest {
 
     /** Twelve events are kept; undo brings back those that later ones have put out. */
     private static void eventsUndone() {
-        KiteQuarrel q = Checks.field("kite a 50 50 out 10;wind 0 0 0;sink 20;slack 0;");
+        KiteQuarrel q = Checks.field("kite a 50 50 out 10;kite b 52 57 out 3;wind 0 0 0;sink 20;slack 0;");
         for (int n = 0; n < 5; n++) {
             q.launch(0);
             q.pull(0, 50);
@@ -303,9 +303,15 @@ public final class ChangesTest {
         q.undo();
         due("the twelve are there again", twelve, () -> seenBut(q));
         q.saveState();
-        q.launch(0);
-        q.run(1);
-        q.launch(0);
+        Checks.due("undone events are put out by others", false, () -> {
+            for (int n = 0; n < 12; n++) {
+                q.launch(1);
+                q.letGo(1);
+                q.run(5);
+                q.restring(1, 1, 1);
+            }
+            return twelve.equals(seenBut(q));
+        });
         q.restoreState();
         due("the twelve are restored", twelve, () -> seenBut(q));
         due("others than before", false, () -> before.equals(twelve));

@@ -459,6 +459,8 @@ public final class QueriesTest {
         q.reel(0, 9);
         q.run(1);
         due("a cut line, worn by more than it has", "22 0.0", () -> q.kite(1, 10) + " " + q.left(1));
+        KiteQuarrel weak = Checks.field("kite a 1 1 tough 1;kite b 1 1 tough 99;");
+        due("whole lines, weak and tough", "1.0 1.0", () -> weak.left(0) + " " + weak.left(1));
         for (int kite : new int[] {-1, 3, LEAST, MOST}) Checks.refused("left " + kite, q, Checks.INDEX, () -> q.left(kite));
     }
 

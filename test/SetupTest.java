@@ -176,7 +176,7 @@ public final class SetupTest {
     private static void errors() {
         String ten = tenKites();
         Object[][] rows = {
-            {"x", 1, 0}, {";", 1, 0}, {"7", 1, 0}, {"-", 1, 0}, {" \n sharp", 1, 3}, {"kites a 1 1;", 1, 0}, {"Kite a 1 1;", 1, 0}, {"\t", 1, 0},
+            {"x", 1, 0}, {";", 1, 0}, {"7", 1, 0}, {"-", 1, 0}, {" \n sharp", 1, 3}, {"kites a 1 1;", 1, 0}, {"mite a 1 1;", 1, 0}, {"lick 1;", 1, 0}, {"Kite a 1 1;", 1, 0}, {"\t", 1, 0},
             {"kite", 1, 4}, {"kite  ", 1, 6}, {"kite a", 1, 6}, {"kite a 1", 1, 8}, {"kite a 1 2", 1, 10}, {"kite a 1 2\n", 1, 11},
             {"kite a 1 2 sharp", 1, 16}, {"kite a 1 2 sharp;", 1, 16}, {"kite a 1 2 out", 1, 14}, {"kite a 1 2 3;", 1, 11},
             {"kite 1 2 3;", 1, 5}, {"kite abcdefg 1 2;", 1, 5}, {"kite a 1 2 sharp 1 sharp 2;", 1, 19}, {"kite a 1 2 tough 1 sharp 2;", 1, 19},

@@ -166,6 +166,23 @@ public final class TicksTest {
         due("one that drifts has no line to rub", 0, () -> moved.kite(0, 10));
     }
 
+    /** Two pairs of lines in one tick: each cut is told with the place of its own crossing. */
+    private static void cutsOfTwoPairs() {
+        KiteQuarrel q = Checks.field("kite a 50 50 tough 1 out 30;kite b 45 60 tough 1 out 30;kite c 150 50 tough 1 out 30;kite d 145 60 tough 1 out 30;"
+            + "wind 0 0 0;slack 99;");
+        for (int i = 0; i < 4; i++) q.launch(i);
+        q.walk(0, 40, 50);
+        q.walk(1, 45, 40);
+        q.walk(2, 140, 50);
+        q.walk(3, 145, 40);
+        due("four cuts", 4, () -> q.run(1));
+        due("each at its place", "45 1 45 0 145 3 145 2", () -> {
+            StringBuilder s = new StringBuilder();
+            for (int e = 4; e < 8; e++) s.append(e > 4 ? " " : "").append(q.event(e, 4)).append(' ').append(q.event(e, 3));
+            return s.toString();
+        });
+    }
+
     private static void whoCuts() {
         String text = "kite a 20 50 sharp A out 60;kite b 30 50 sharp B out 60;kite c 60 45 sharp 9 tough T out 60;"
             + "kite d 40 50 sharp D out 60;wind 0 0 0;slack 99;reach 50;";
@@ -297,6 +314,7 @@ public final class TicksTest {
         pulledIn();
         wentDown();
         wear();
+        cutsOfTwoPairs();
         whoCuts();
         drifting();
         pickedUp();
