@@ -95,11 +95,14 @@ final class Checks {
     }
 
     static int bufferLength(KiteQuarrel q) {
-        int length = 0;
-        for (int most = 700; length == 0 && most > 0; most--) {
-            // only the length that it has leaves the buffer as it is, so the first true one is looked for from above
-            if (q.truncate(most)) length = most;
+        int fed = q.feed(0, 0, 0, 0, 0);
+        if (fed != KiteQuarrel.NONE) {
+            q.truncate(fed - 20);
+            return fed - 20;
         }
+        int length = 700;
+        // only the length that it has leaves the buffer as it is, so the first true one is looked for from above
+        while (length > 680 && !q.truncate(length)) length--;
         return length;
     }
 
