@@ -76,6 +76,7 @@ final class ChangeSection extends Sentences {
         q.pull(0, 40);
         is("a change in place of those undone", all(q.count(12), q.undo(), q.kite(0, 6), q.undo(), q.kite(0, 6)), "3 2 31 1 30");
         is("to the first", all(q.undo(), q.kite(0, 6), q.count(12)), "0 15 0");
+        eventsComeBack();
         KiteQuarrel mixed = bobIsCutInTwo();
         mixed.run(2);
         mixed.run(5);
@@ -84,6 +85,29 @@ final class ChangeSection extends Sentences {
         is("undone to the cut", all(states(mixed), mixed.count(9), mixed.sum(11), mixed.count(2), mixed.count(8)), "02 1 1 2 3");
         mixed.undo();
         is("undone to the first", all(states(mixed), mixed.count(9), mixed.sum(11), mixed.count(2), mixed.count(8)), "00 0 0 0 2");
+    }
+
+    /** All six numbers of the events that are kept, one behind the other. */
+    private static String shownEvents(KiteQuarrel q) {
+        StringBuilder s = new StringBuilder();
+        for (int e = 0; e < q.count(8); e++) s.append(event(q, e)).append(", ");
+        return s.toString();
+    }
+
+    /** The events of cuts and falls come back, all parts of them, where a later change has put others in their places. */
+    private static void eventsComeBack() {
+        KiteQuarrel q = tenCrossed("pick 0;");
+        q.reel(0, 2);
+        q.run(3);
+        String twelve = shownEvents(q);
+        q.run(200);
+        is("others", shownEvents(q).equals(twelve), false);
+        q.undo();
+        is("undone", shownEvents(q), twelve);
+        q.saveState();
+        q.run(200);
+        q.restoreState();
+        is("restored", shownEvents(q), twelve);
     }
 
     private static void whatStays() {

@@ -55,6 +55,13 @@ final class CrossingSection extends Sentences {
         crossingOf("the same line", "none", 40, 50, 50, 50, 40, 50, 50, 50);
         crossingOf("the same line against", "none", 40, 50, 50, 50, 50, 50, 40, 50);
         crossingOf("over one another", "none", 40, 50, 50, 50, 42, 50, 60, 50);
+        // an end 1 aside of the other line, told by whole numbers: the parts are 1 and 69 of 70
+        crossingOf("the first flyer hardly beyond", "50,50", 50, 50, 50, 60, 47, 48, 54, 53);
+        crossingOf("the first kite hardly beyond", "50,50", 50, 60, 50, 50, 47, 48, 54, 53);
+        crossingOf("the second flyer hardly beyond", "50,50", 47, 48, 54, 53, 50, 50, 50, 60);
+        crossingOf("the second kite hardly beyond", "50,50", 47, 48, 54, 53, 50, 60, 50, 50);
+        crossingOf("the first flyer hardly before", "none", 50, 51, 50, 60, 47, 48, 54, 53);
+        crossingOf("the first kite hardly before", "none", 50, 60, 50, 51, 47, 48, 54, 53);
         crossingOf("ends that are one", "none", 40, 50, 50, 50, 50, 50, 50, 60);
     }
 

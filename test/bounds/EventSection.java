@@ -53,7 +53,17 @@ final class EventSection extends Sentences {
         for (int kite = 1; kite < 10; kite++) q.pull(kite, 50);
         q.run(1);
         is("nine in one tick", events(q), "1d0 1d1 2l1 2d1 2d2 2d3 2d4 2d5 2d6 2d7 2d8 2d9");
-        for (int kite = 0; kite < 10; kite++) q.launch(kite);
+        aroundOnceMore();
+    }
+
+    /** More than 24 events are behind the twelve. */
+    private static void aroundOnceMore() {
+        KiteQuarrel q = ten(10, "wind 0 0 0;slack 0;sink 20;");
+        for (int n = 0; n < 3; n++) {
+            for (int kite = 0; kite < 10; kite++) q.pull(kite, 50);
+            q.run(1);
+            for (int kite = 0; kite < 10; kite++) q.launch(kite);
+        }
         is("around once more", all(q.count(8), events(q)), "12 2d8 2d9 3l0 3l1 3l2 3l3 3l4 3l5 3l6 3l7 3l8 3l9");
         for (int kite = 0; kite < 10; kite++) q.pull(kite, 50);
         q.set(5, 0);

@@ -68,10 +68,11 @@ final class SetupSection extends Sentences {
                 {"kite a 1 1 sharp 1 sharp 1;", "error 1 19"}, {"kite a 1 1 tough 1 tough 1;", "error 1 19"}, {"kite a 1 1 out 1 out 1;", "error 1 17"}, {"kite a 1 1 1;", "error 1 11"},
                 {"kite a 1;", "error 1 8"}, {"kite a;", "error 1 6"}, {"kite;", "error 1 4"}, {"kite 1 1;", "error 1 5"}, {"wind;", "error 1 4"}, {"wind 0;", "error 1 6"}, {"wind 0 1;", "error 1 8"},
                 {"wind 0 1 1 1;", "error 1 11"}, {"sharp 1;", "error 1 0"}, {"tough 1;", "error 1 0"}, {"out 1;", "error 1 0"}, {"a 1 1;", "error 1 0"}, {"1;", "error 1 0"}, {"-1;", "error 1 0"},
-                {"kites a 1 1;", "error 1 0"}, {"kit a 1 1;", "error 1 0"}, {"winds 0 1 1;", "error 1 0"}, {"kite a 1 1 sharps 1;", "error 1 11"}, {"kite a 1 1 ou 1;", "error 1 11"}});
+                {"kites a 1 1;", "error 1 0"}, {"kit a 1 1;", "error 1 0"}, {"xite a 1 1;", "error 1 0"}, {"kitx a 1 1;", "error 1 0"}, {"xind 0 1 1;", "error 1 0"}, {"winx 0 1 1;", "error 1 0"},
+                {"kite a 1 1 xharp 1;", "error 1 11"}, {"kite a 1 1 xough 1;", "error 1 11"}, {"kite a 1 1 xut 1;", "error 1 11"}, {"winds 0 1 1;", "error 1 0"}, {"kite a 1 1 sharps 1;", "error 1 11"}, {"kite a 1 1 ou 1;", "error 1 11"}});
             for (String setting : SETTINGS) {
                 texts(new String[][] {{setting + " 1;", "0 kites"}, {setting + ";", "error 1 " + setting.length()}, {setting + "1;", "0 kites"}, {setting + "s 1;", "error 1 0"},
-                    {setting.substring(1) + " 1;", "error 1 0"}, {setting.substring(0, 3) + " 1;", "error 1 0"}});
+                    {"x" + setting.substring(1) + " 1;", "error 1 0"}, {setting.substring(0, setting.length() - 1) + "x 1;", "error 1 0"}, {setting.substring(1) + " 1;", "error 1 0"}, {setting.substring(0, 3) + " 1;", "error 1 0"}});
             }
         });
     }
@@ -134,6 +135,7 @@ final class SetupSection extends Sentences {
                 {"kite - 1 1;", "error 1 5"}, {"kite ; 1 1;", "error 1 5"}, {"kite A 1 1;", "error 1 5"}});
             for (String quoted : QUOTED) {
                 texts(new String[][] {{"kite " + quoted + " 1 1;", "error 1 5"}, {"kite " + quoted.substring(1) + " 1 1;", "1 kites"},
+                    {"kite x" + quoted.substring(1) + " 1 1;", "1 kites"}, {"kite " + quoted.substring(0, quoted.length() - 1) + "x 1 1;", "1 kites"},
                     {"kite " + quoted.substring(0, quoted.length() - 1) + " 1 1;", "1 kites"}, {"kite " + quoted + "s 1 1;", "1 kites"}, {"kite x" + quoted + " 1 1;", "1 kites"}});
             }
             // words that the text of section 4 holds outside of quotes
@@ -202,7 +204,10 @@ final class SetupSection extends Sentences {
             for (String setting : SETTINGS) {
                 texts(new String[][] {{setting + " 1;" + setting + " 1;", "error 3 " + (setting.length() + 3)}, {setting + " 1;kite a 1 1;" + setting, "error 3 " + (setting.length() + 14)}});
             }
-            is("each once in any order", parsed("pick 1;reach 1;sink 1;climb 1;rise 1;slack 1;"), "0 kites");
+            String each = "pick 1;reach 1;sink 1;climb 1;rise 1;slack 1;";
+            is("each once in any order", parsed(each), "0 kites");
+            for (String setting : SETTINGS) is("each, then " + setting, parsed(each + setting), "error 3 " + each.length());
+            is("one more told behind a text that told it", all(Checks.parse(field(each), each)), "0");
         });
         says("4: the first word of an 11th kite or of a 5th wind.", () -> texts(new String[][] {{TEN, "10 kites"}, {TEN + "kite", "error 4 150"}, {TEN + " \nkite k 1 1;", "error 4 152"},
             {TEN + "wind 0 1 1;slack 1;", "10 kites"}, {"wind 0 1 1;wind 1 1 1;wind 2 1 1;wind 3 1 1;", "0 kites"}, {"wind 0 1 1;wind 1 1 1;wind 2 1 1;wind 3 1 1;wind", "error 4 44"},

@@ -69,8 +69,17 @@ final class Checks {
     }
 
     static String output(KiteQuarrel q) {
+        return output(q, 0, 700);
+    }
+
+    /** A part of the output, for texts of more bytes than an object may be asked for. */
+    static String output(KiteQuarrel q, int from, int to) {
         StringBuilder text = new StringBuilder();
-        for (int i = 0; q.outputByte(i) != KiteQuarrel.NONE; i++) text.append((char) q.outputByte(i));
+        for (int i = from; i < to; i++) {
+            int read = q.outputByte(i);
+            if (read == KiteQuarrel.NONE) break;
+            text.append((char) read);
+        }
         return text.toString();
     }
 

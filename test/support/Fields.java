@@ -87,10 +87,12 @@ class Fields {
         return q;
     }
 
-    /** The kites are all down, the time is as told. */
+    /** The kites are all down, the time is as told, and saved; nothing can be undone. */
     static KiteQuarrel late(int time, String text) {
         KiteQuarrel q = field(text);
         until(q, time);
+        q.saveState();
+        q.restoreState();
         return q;
     }
 
