@@ -137,6 +137,8 @@ final class BufferPromises extends Sentences {
             q.printKite(0);
             fresh.printKite(0);
             is("all else", everything(q), everything(fresh));
+            KiteQuarrel ten = tenCrossed(""), two = new KiteQuarrel();
+            is("nothing of ten kites that flew and crossed", looks(ten), looks(two));
             KiteQuarrel names = used();
             Checks.parse(names, "kite bob 5 6;");
             is("the names", all(found(names, "ann"), found(names, "bob")), "-1 0");
@@ -163,9 +165,20 @@ final class BufferPromises extends Sentences {
                 is("parse", Checks.parse(q, text), -1);
                 Checks.parse(q, "sink 0;");
                 is("all is kept behind " + text, everything(q), everything(used()));
-                is("the names, too", all(found(q = behind(text), "ann"), found(q, "bob"), found(q, "z")), "0 1 -1");
+                KiteQuarrel names = behind(text);
+                is("the names, too", all(found(names, "ann"), found(names, "bob"), found(names, "z")), "0 1 -1");
             }
         });
+    }
+
+    /** What is to be seen of two kites that fly, behind a parse. */
+    private static String looks(KiteQuarrel q) {
+        Checks.parse(q, "kite y 100 100 out 300;kite z 82 190 out 300;");
+        q.launch(0);
+        q.launch(1);
+        q.walk(0, 106, 14);
+        return all(q.count(3), q.count(10), q.rubs(0), q.wearNow(0), q.threat(0), q.highest(), q.tautest(), q.spread(), q.meanHeight(), q.nearest(0), q.rank(1), q.inBox(0, 0, 199, 199),
+            q.sum(1), q.leader(), q.cutsIn(50), q.picker(10, 10, -1), pairs(q), events(q), Checks.answerOf(() -> q.kite(2, 0)));
     }
 
     private static KiteQuarrel behind(String text) {
@@ -227,6 +240,7 @@ final class BufferPromises extends Sentences {
                 ten.pull(0, 180);
                 ten.set(4, 0);
                 is("all but those of one line, which is not slack", all(ten.count(10), ten.count(11)), "45 36");
+                is("the last two of ten", all(lastTwo().count(3), lastTwo().count(4), lastTwo().count(10), lastTwo().count(11)), "2 8 1 1");
                 is("four winds, twelve events", all(field("wind 0 1 1;wind 1 1 1;wind 2 1 1;wind 3 1 1;").count(1), launchedTwelve().count(8)), "4 12");
                 is("the last moment", late(5000, "").count(2), 5000);
             });

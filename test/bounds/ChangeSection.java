@@ -1,6 +1,7 @@
+import java.util.function.BiConsumer;
 import java.util.function.Consumer;
 
-/** Section 6 and the promises 43 to 52: changes, undo, and forecasts as copies. */
+/** Section 6: what a change is, what undo takes back, and forecasts as copies. */
 final class ChangeSection extends Sentences {
     private ChangeSection() {
     }
@@ -14,7 +15,7 @@ final class ChangeSection extends Sentences {
     }
 
     /** Each change of the face once, on a field of five; none of them is refused. */
-    private static void eachChange(java.util.function.BiConsumer<String, Consumer<KiteQuarrel>> each) {
+    private static void eachChange(BiConsumer<String, Consumer<KiteQuarrel>> each) {
         each.accept("run", q -> q.run(1));
         each.accept("launch", q -> q.launch(1));
         each.accept("reel", q -> q.reel(0, 5));
@@ -87,7 +88,7 @@ final class ChangeSection extends Sentences {
         is("undone to the first", all(states(mixed), mixed.count(9), mixed.sum(11), mixed.count(2), mixed.count(8)), "00 0 0 0 2");
     }
 
-    /** All six numbers of the events that are kept, one behind the other. */
+    /** All parts of all events that are kept. */
     private static String shownEvents(KiteQuarrel q) {
         StringBuilder s = new StringBuilder();
         for (int e = 0; e < q.count(8); e++) s.append(event(q, e)).append(", ");
@@ -192,6 +193,13 @@ final class ChangeSection extends Sentences {
         is("no reel is better than another", all(none.safeReel(0, 50), none.bestReel(0, 50), none.boldReel(0, 50)), "-9 -9 -9");
         none.letGo(1);
         is("lost now", all(none.duel(0, 1, 100), none.duel(1, 0, 1), none.cutIn(1, 1), none.landsIn(1, 100)), "1 1 0 -1");
-        is("with one tick left, as behind one", all(one.safeReel(0, 50), one.safeReel(0, 1), one.boldReel(0, 50), one.boldReel(0, 1)), all(2, 2, one.boldReel(0, 1), one.boldReel(0, 50)));
+        is("the safe and the bold reel behind the only tick", all(one.safeReel(0, 50), one.safeReel(0, 1), one.boldReel(0, 50), one.boldReel(0, 1)), "2 2 -9 -9");
+        // behind one tick -8 is the best, behind two -4
+        String text = "kite a 50 50 out 28;wind 0 0 0;slack 5;sink 8;climb 0;";
+        for (int[] row : new int[][] {{0, 1, -8}, {0, 2, -4}, {4998, 1, -8}, {4998, 2, -4}, {4998, 50, -4}, {4999, 1, -8}, {4999, 2, -8}, {4999, 50, -8}, {5000, 1, -9}, {5000, 50, -9}}) {
+            KiteQuarrel q = late(row[0], text);
+            q.launch(0);
+            is("the best reel from " + row[0] + " behind " + row[1], q.bestReel(0, row[1]), row[2]);
+        }
     }
 }

@@ -99,6 +99,9 @@ final class ForecastPromises extends Sentences {
             is("behind the first", all(comesOver(50, "", "").crossIn(0, 1, 1), comesOver(50, "", "").crossIn(0, 1, 100)), "1 1");
             is("an end on the line is not yet", all(comesOver(51, "", "").crossIn(0, 1, 1), comesOver(51, "", "").crossIn(0, 1, 2)), "-1 2");
             is("behind the 100th", all(comesOver(149, "sharp 0", "sharp 0").crossIn(0, 1, 99), comesOver(149, "sharp 0", "sharp 0").crossIn(0, 1, 100)), "-1 100");
+            KiteQuarrel apart = comesOver(55, "", "");
+            apart.set(4, 0);
+            is("they need not rub", all(apart.crossIn(0, 1, 100), crossed("", "", "reach 2;").crossIn(0, 1, 1)), "6 0");
             KiteQuarrel once = crossed("sharp 1", "tough 1", "");
             is("now, and never again", once.crossIn(0, 1, 5), 0);
         });

@@ -133,6 +133,7 @@ final class LookPromises extends Sentences {
             q.set(4, 2);
             is("beyond", all(q.rubs(0), q.rubs(1)), "0 0");
         });
+        says("Returns the set of kites.", () -> is("the last two of ten", all(lastTwo().rubs(8), lastTwo().rubs(9), lastTwo().rubs(0)), "512 256 0"));
         says("Returns the set of kites.", () -> is("all of ten", all(tenCrossed("").rubs(0), tenCrossed("").rubs(9), five().rubs(0), five().rubs(4)), "1022 511 0 0"));
         place("Promise 18");
         says("Returns the wear that would come to a line if a tick had only its part b now.", () -> {
@@ -157,6 +158,8 @@ final class LookPromises extends Sentences {
             q.reel(9, 9);
             is("of nine lines", all(q.wearNow(0), q.wearNow(9)), "18 9");
             is("of none", all(five().wearNow(0), five().wearNow(1), five().wearNow(2)), "0 0 0");
+            is("of the last two of ten", all(lastTwo().wearNow(8), lastTwo().wearNow(9), lastTwo().wearNow(0)), "3 2 0");
+            is("as in a tick", all(lastTwo().kiteIn(8, 10, 1), lastTwo().kiteIn(9, 10, 1)), "3 2");
             is("of one without sharpness", crossed("sharp 0", "", "").wearNow(1), 0);
         });
     }
@@ -196,8 +199,12 @@ final class LookPromises extends Sentences {
         says("Finds the highest kite that flies.", () -> {
             KiteQuarrel q = launched(4, "kite a 9 9 out 5;kite b 9 9 out 6;kite c 9 9 out 20;kite d 9 9 out 19;kite e 9 9;");
             is("the third", q.highest(), 2);
+            q.pull(0, 400);
+            q.pull(2, 1);
+            is("whatever is out", q.highest(), 2);
             q.letGo(2);
             is("not one that drifts", q.highest(), 3);
+            is("the last two of ten", lastTwo().highest(), 8);
         });
         says("Returns number of the kite, the smallest one on a tie;", () -> {
             is("ten", ten(10, "").highest(), 0);
@@ -214,6 +221,7 @@ final class LookPromises extends Sentences {
             is("not one that drifts", q.tautest(), 1);
             q.walk(3, 99, 99);
             is("below 0", q.tautest(), 3);
+            is("the last two of ten", lastTwo().tautest(), 8);
         });
         says("Returns number of the kite, the smallest one on a tie;", () -> {
             is("ten", ten(10, "").tautest(), 0);
@@ -298,6 +306,9 @@ final class LookPromises extends Sentences {
             five.set(5, 9);
             is("states", states(five), "01231");
             is("by one that flies or is down", all(five.picker(50, 50, -1), five.picker(51, 50, -1), five.picker(52, 50, -1), five.picker(53, 50, -1), five.picker(53, 50, 4)), "0 1 1 4 1");
+            KiteQuarrel away = launched(1, "kite a 50 60;");
+            away.walk(0, 100, 120);
+            is("by where the flyer is, not the kite", all(away.picker(100, 120, -1), away.picker(110, 130, -1), away.picker(50, 60, -1), away.picker(50, 120, -1), away.picker(100, 60, -1)), "0 0 -1 -1 -1");
             KiteQuarrel picked = launched(1, "kite a 50 50 out 3;kite b 59 50;wind 0 0 0;");
             picked.letGo(0);
             picked.run(1);
@@ -326,7 +337,7 @@ final class LookPromises extends Sentences {
             }
             KiteQuarrel heights = launched(2, "kite a 0 0 out 20;kite b 9 12 out 4;kite c 0 21;");
             is("with heights", all(heights.gap(0, 1), heights.gap(0, 2), heights.gap(1, 2)), "21 29 13");
-            is("a place, not the flyer's", moved().gap(0, 1), 5);
+            is("a place, not the flyer's", all(moved().gap(0, 1), moved().gap(1, 0)), "5 5");
             // 199 squared is 39601: the height 283 makes it 159291, 399 squared is 159201; 284 and 285 make 159858 and 160427
             is("just below", all(gapAt(282), gapAt(283)), "398 399");
             is("at most 400", all(gapAt(284), gapAt(285), gapAt(286), gapAt(290), gapAt(299), gapAt(300)), "399 400 400 400 400 400");
@@ -384,6 +395,14 @@ final class LookPromises extends Sentences {
             is("49 and 50, though the sums of the differences are 7 and 10", squares.nearest(0), 1);
             KiteQuarrel other = launched(3, "kite a 50 50;kite b 58 50;kite c 55 55;");
             is("64 and 50, though the sums of the differences are 8 and 10", other.nearest(0), 2);
+            KiteQuarrel aside = launched(3, "kite a 50 90;kite b 57 90;kite c 50 96;");
+            is("49 and 36", all(aside.nearest(0), aside.nearest(1), aside.nearest(2)), "2 0 0");
+            aside.walk(0, 57, 96);
+            aside.walk(1, 50, 91);
+            aside.walk(2, 0, 0);
+            is("the kites' places, not the flyers'", all(aside.nearest(0), aside.nearest(1), aside.nearest(2)), "2 0 0");
+            aside.walk(0, 50, 80);
+            is("nor that of its own flyer", aside.nearest(0), 2);
             KiteQuarrel same = launched(2, "kite a 50 50;kite b 50 50;");
             is("at one place", all(same.nearest(0), same.nearest(1)), "1 0");
             is("across the field", launched(2, "kite a 0 0;kite b 199 199;").nearest(0), 1);
@@ -399,13 +418,16 @@ final class LookPromises extends Sentences {
             at.walk(0, 40, 50);
             below.walk(0, 40, 50);
             is("at 20 and at 19", all(at.upwind(0), below.upwind(0)), "1 -1");
+            at.pull(0, 19);
+            below.pull(0, 20);
+            is("whatever is out", all(at.upwind(0), below.upwind(0)), "1 -1");
         });
         says("Returns with s as the sum of the difference of x from the flyer to the kite times the wind's speed for x, and likewise for y: 1 if s is below 0 (upwind), 0 if s is 0, "
             + "-1 if it is above 0 (downwind).", () -> {
                 int[][] rows = {{0, 0, 0}, {1, 0, 1}, {-1, 0, -1}, {0, 1, -1}, {0, -1, 1}, {3, 2, 0}, {-3, -2, 0}, {2, 1, 1}, {1, 1, -1}, {-4, -3, 1}, {-5, -3, -1}};
                 for (int[] row : rows) {
-                    KiteQuarrel q = launched(1, "kite a 50 50 out 20;wind 0 -2 3;");
-                    q.walk(0, 50 - row[0], 50 - row[1]);
+                    KiteQuarrel q = launched(1, "kite a 50 90 out 20;wind 0 -2 3;");
+                    q.walk(0, 50 - row[0], 90 - row[1]);
                     is("differences " + row[0] + ", " + row[1], q.upwind(0), row[2]);
                 }
                 KiteQuarrel none = launched(1, "kite a 50 50 out 20;wind 0 0 0;");
@@ -432,6 +454,7 @@ final class LookPromises extends Sentences {
         place("Promise 27");
         says("Finds the kite by which the line of a kite would be cut, if it was cut now.", () -> {
             is("the first, the second, the last", all(threatened(3, 2, 1).threat(2), threatened(1, 3, 2).threat(2), threatened(1, 2, 3).threat(2)), "0 1 3");
+            is("the last two of ten", all(lastTwo().threat(8), lastTwo().threat(9), lastTwo().threat(0)), "9 8 -1");
             is("by c", all(threatened(1, 1, 1).threat(0), threatened(1, 1, 1).threat(1), threatened(1, 1, 1).threat(3)), "2 2 2");
         });
         says("Returns number of the kite that rubs it and would bring the most wear, the smallest one on a tie;", () -> {
@@ -492,7 +515,8 @@ final class LookPromises extends Sentences {
         says("Returns the set of the kites whose places lie there (the ends included).", () -> {
             KiteQuarrel q = field("kite a 0 0;kite b 199 199;kite c 0 199;kite d 199 0;");
             is("corners", all(q.inBox(0, 0, 0, 0), q.inBox(199, 199, 199, 199), q.inBox(0, 199, 0, 199), q.inBox(199, 0, 199, 0), q.inBox(1, 1, 198, 198), q.inBox(0, 0, 199, 199)), "1 2 4 8 0 15");
-            is("the kite's place, not the flyer's", all(crossed("", "", "").inBox(50, 50, 50, 50), crossed("", "", "").inBox(40, 50, 40, 50)), "1 0");
+            is("the kite's place, not the flyer's", all(crossed("", "", "").inBox(50, 50, 50, 50), crossed("", "", "").inBox(40, 50, 40, 50), crossed("", "", "").inBox(45, 60, 45, 60),
+                crossed("", "", "").inBox(45, 40, 45, 40)), "1 0 2 0");
             is("of no kite", new KiteQuarrel().inBox(0, 0, 199, 199), 0);
             is("ten", ten(5, "").inBox(100, 100, 100, 100), 1023);
         });
@@ -503,6 +527,10 @@ final class LookPromises extends Sentences {
         says("Returns the difference between the heights of the highest and of the lowest kite that fly.", () -> {
             KiteQuarrel q = launched(3, "kite a 9 9 out 8;kite b 9 9 out 20;kite c 9 9 out 5;kite d 9 9;");
             is("20 less 5", q.spread(), 15);
+            q.pull(0, 1);
+            q.pull(1, 400);
+            is("whatever is out", q.spread(), 15);
+            is("the last two of ten", lastTwo().spread(), 1);
             q.letGo(2);
             is("one that drifts does not count", q.spread(), 12);
         });
@@ -526,6 +554,9 @@ final class LookPromises extends Sentences {
         says("Returns the mean height of the kites that fly: their sum divided by their number, both converted to double.", () -> {
             KiteQuarrel q = launched(3, "kite a 9 9 out 20;kite b 9 9 out 20;kite c 9 9 out 9;kite d 9 9;");
             is("49 of 3", q.meanHeight(), 49.0 / 3.0);
+            q.pull(1, 400);
+            is("whatever is out", q.meanHeight(), 49.0 / 3.0);
+            is("the last two of ten", lastTwo().meanHeight(), 19.5);
             q.letGo(0);
             is("29 of 2", q.meanHeight(), 14.5);
         });
@@ -549,6 +580,7 @@ final class LookPromises extends Sentences {
             is("80 of 99", one.left(1), 80f / 99f);
         });
         says("Returns the quotient.", () -> {
+            is("a whole line without sharpness", field("kite a 1 1 sharp 0 tough 7;").left(0), 1.0f);
             is("whole lines", all(field("kite a 1 1 tough 1;").left(0), field("kite a 1 1 tough 99;").left(0), launched(1, "kite a 1 1;").left(0)), "1.0 1.0 1.0");
             is("of each state", all(five().left(0), five().left(1), five().left(2), five().left(3), five().left(4)), "1.0 1.0 1.0 1.0 1.0");
         });

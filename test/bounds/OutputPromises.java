@@ -54,6 +54,7 @@ final class OutputPromises extends Sentences {
                     ten.append(Checks.output(part, from, from + 350));
                 }
                 is("all pairs in their order", ten, allPairs());
+                is("the last two of ten", pairs(lastTwo()), "i*j");
                 q.printKite(0);
                 q.printPairs();
                 is("in place of the text before", Checks.output(q), "annxbob");

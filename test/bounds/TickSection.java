@@ -41,6 +41,9 @@ final class TickSection extends Sentences {
             KiteQuarrel q = late(4999, "kite a 1 1;");
             is("the last tick", all(q.run(1), q.count(2)), "0 5000");
             refused("one more", Checks.STATE, () -> late(5000, "kite a 1 1;"), r -> r.run(1));
+            KiteQuarrel end = late(5000, "kite a 1 1;");
+            is("all other changes at 5000", all(end.restring(0, 1, 1), end.launch(0), end.reel(0, 2), end.pull(0, 3), end.walk(0, 4, 5), end.letGo(0), end.setWind(0, 1, 1), end.set(0, 1), end.undo()),
+                "0 10 0 10 7 10 3 5 7");
         });
         says("In a tick the following is done:", () -> {
             KiteQuarrel q = bobIsCutInTwo();
@@ -98,6 +101,7 @@ final class TickSection extends Sentences {
             behind("the wind at its height", "kite a 50 50 out 20;" + winds, 5, 1, "0 50 53 20 25");
             behind("the wind below", "kite a 50 50 out 19;" + winds, 5, 1, "0 52 50 19 24");
             behind("the lowest wind", "kite a 50 50 out 18;" + winds, 5, 1, "0 51 50 18 23");
+            behind("whatever is out", "kite a 50 50 out 40;" + winds, 5, 1, "0 50 53 20 45");
         });
     }
 
@@ -348,6 +352,13 @@ final class TickSection extends Sentences {
             q.letGo(0);
             q.run(1);
             is("by the wind at the height before", all(place(q, 0), place(q, 1)), "2 41 59 19 20 2 61 60 18 19");
+            KiteQuarrel out = launched(2, "kite a 50 50 out 20;kite b 60 60 out 19;wind 0 1 0;wind 20 -9 9;sink 1;pick 0;");
+            out.pull(0, 5);
+            out.pull(1, 50);
+            out.letGo(0);
+            out.letGo(1);
+            out.run(1);
+            is("whatever is out", all(place(out, 0), place(out, 1)), "2 41 59 19 5 2 61 60 18 50");
             KiteQuarrel edge = launched(4, "kite a 0 1 out 20;kite b 199 198 out 20;kite c 1 0 out 20;kite d 198 199 out 20;wind 0 -1 -2;");
             for (int kite = 0; kite < 4; kite++) edge.letGo(kite);
             edge.run(1);
@@ -399,6 +410,12 @@ final class TickSection extends Sentences {
             is("before", pickedBy(before), "4 1");
             before.run(5);
             is("not once more", all(before.kite(1, 11), events(before)), "2 0l0 0f0 3p0/1");
+            // a falls at (59,47), away from its flyer
+            for (String[] row : new String[][] {{"69 57", "4 1"}, {"50 50", "4 1"}, {"48 50", "3 -1"}, {"50 58", "3 -1"}, {"69 37", "4 1"}}) {
+                KiteQuarrel away = launched(1, "kite a 50 50 out 4;kite b " + row[0] + ";wind 0 9 -3;pick 10;");
+                away.letGo(0);
+                is("where it fell, by the flyer at " + row[0], pickedBy(away), row[1]);
+            }
             KiteQuarrel two = launched(2, "kite a 50 50 out 4;kite b 50 50 out 4;kite c 50 50;wind 0 0 0;");
             two.letGo(1);
             two.letGo(0);

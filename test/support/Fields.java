@@ -56,6 +56,19 @@ class Fields {
         return q;
     }
 
+    /** Of ten kites the last two alone fly, and rub: 8 at 20 with the slack 0, 9 at 19. */
+    static KiteQuarrel lastTwo() {
+        KiteQuarrel two = field("kite a 1 1;kite b 1 1;kite c 1 1;kite d 1 1;kite e 1 1;kite f 1 1;kite g 1 1;kite h 1 1;kite i 50 50 sharp 2 out 20;kite j 45 60 sharp 3 out 19;"
+            + "wind 0 0 0;slack 99;reach 50;");
+        two.launch(8);
+        two.launch(9);
+        two.walk(8, 40, 50);
+        two.walk(9, 45, 40);
+        two.pull(8, 22);
+        two.pull(9, 30);
+        return two;
+    }
+
     /**
      * Kite k is in the state k: a flies, b is down, c drifts, d fell, e was picked up by b's flyer. An error, an output, a saved
      * state, two changes and a text in the buffer are there, so that a call can change them if it should not.
